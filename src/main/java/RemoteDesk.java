@@ -1,8 +1,8 @@
 /**
  * A desk for objects that are called from other places.
  *
- * Numbers used throughout, all of them indexes that hold for every array here:
- * an OBJECT is place * 12 + its number at the place; a SLOT is (place * 5 + loader) * 12 + name.
+ * How things are numbered inside, over all places at once:
+ * an object is place * 12 + its number there; a SLOT, a name at a LOADER, is (place * 5 + loader) * 12 + name.
  * A LOADER DEFINES at most one class of a name, so a class is numbered by the SLOT that DEFINED it.
  */
 public final class RemoteDesk {
