@@ -5,8 +5,12 @@ import java.lang.reflect.Method;
 import java.lang.reflect.Modifier;
 import java.nio.file.Files;
 import java.nio.file.Path;
+import java.util.Map;
 import java.util.Set;
+import java.util.TreeMap;
 import java.util.TreeSet;
+import java.util.regex.Matcher;
+import java.util.regex.Pattern;
 
 /** The public face of the document, the limits of promise 24, and those rules of LANGUAGE.md that can be seen from outside. */
 public final class FaceTest {
@@ -26,6 +30,7 @@ public final class FaceTest {
         constants();
         fields();
         source();
+        calls();
         due.close();
     }
 
@@ -94,9 +99,13 @@ public final class FaceTest {
         due.is("at most forty fields", ownFields <= 40, true);
     }
 
-    private static void source() throws IOException {
+    private static String code() throws IOException {
         String text = Files.readString(Path.of("src/main/java/RemoteDesk.java"));
-        String code = text.replaceAll("(?s)/\\*.*?\\*/", "").replaceAll("//.*", "");
+        return text.replaceAll("(?s)/\\*.*?\\*/", "").replaceAll("//.*", "");
+    }
+
+    private static void source() throws IOException {
+        String code = code();
         String[] words = {"import", "package", "throw", "try", "catch", "synchronized", "assert", "instanceof", "null", "String", "Math",
             "Integer", "System", "Arrays", "Object", "float", "double", "this", "super", "enum", "record", "interface"};
         for (String word : words) {
@@ -105,5 +114,51 @@ public final class FaceTest {
         String methods = code.substring(code.indexOf("public RemoteDesk()"));
         due.is("a method makes an array or an object", methods.matches("(?s).*\\bnew\\b.*"), false);
         due.is("arrays of arrays", code.contains("[][]"), false);
+    }
+
+    /** Rules 8 and 10: no recursion, six calls deep at most, methods of some sixty lines, no call in the arguments of another. */
+    private static void calls() throws IOException {
+        Map<String, String> bodies = new TreeMap<>();
+        Matcher method = Pattern.compile("(?ms)^    (?:public|private)[^;={]*?(\\w+)\\([^)]*\\) \\{\\n(.*?)^    \\}$").matcher(code());
+        while (method.find()) {
+            bodies.put(method.group(1), method.group(2));
+        }
+        due.is("methods that were read, with the constructor", bodies.size(), RemoteDesk.class.getDeclaredMethods().length + 1);
+        for (String name : bodies.keySet()) {
+            String body = bodies.get(name);
+            due.is(name + " is short", body.lines().count() <= 60, true);
+            due.is(name + " goes at most six deep", depth(name, bodies, 1) <= 6, true);
+            due.is(name + " has a call in the arguments of another", hasCallInArguments(body, bodies.keySet()), false);
+        }
+    }
+
+    private static int depth(String name, Map<String, String> bodies, int before) {
+        int deepest = before;
+        Matcher call = Pattern.compile("\\b(\\w+)\\(").matcher(bodies.get(name));
+        // A method that comes back to itself is found at 7, too.
+        while (before < 7 && call.find()) {
+            if (bodies.containsKey(call.group(1))) {
+                deepest = Math.max(deepest, depth(call.group(1), bodies, before + 1));
+            }
+        }
+        return deepest;
+    }
+
+    private static boolean hasCallInArguments(String body, Set<String> names) {
+        Matcher call = Pattern.compile("\\b(\\w+)\\(").matcher(body);
+        int open = -1;
+        while (call.find()) {
+            if (!names.contains(call.group(1))) {
+                continue;
+            }
+            if (call.start() < open) {
+                return true;
+            }
+            int level = 1;
+            for (open = call.end(); level > 0; open++) {
+                level += body.charAt(open) == '(' ? 1 : body.charAt(open) == ')' ? -1 : 0;
+            }
+        }
+        return false;
     }
 }

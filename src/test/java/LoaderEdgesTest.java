@@ -46,6 +46,8 @@ public final class LoaderEdgesTest {
         brokenFarAway();
         freshUntilReadied();
         brokenForOneLoaderAlone();
+        oneClassOfEach();
+        allClasses();
         due.close();
     }
 
@@ -720,5 +722,42 @@ public final class LoaderEdgesTest {
         d.offer(0, 0, -1, 0, 1, 0);
         due.is("BROKEN: not at place 1", d.make(1, 0, 0, 0), OK);
         due.is("BROKEN: still at place 0", d.make(0, 0, 0, 0), GONE);
+    }
+
+    /** Promise 22: "how many classes its LOADERS DEFINED" */
+    private static void oneClassOfEach() {
+        for (int p = 0; p < 3; p++) {
+            for (int loader = 0; loader < 5; loader++) {
+                for (int name = 0; name < (loader < 4 ? 8 : 12); name++) {
+                    RemoteDesk d = new RemoteDesk();
+                    d.offer(loader < 4 ? loader : 4 + p, name, -1, 0, 1, 0);
+                    d.make(p, loader, name, 0);
+                    for (int other = 0; other < 3; other++) {
+                        due.is("22: classes at " + other, d.state(other, 1), other == p ? 1 : 0);
+                    }
+                }
+            }
+        }
+    }
+
+    /** The same: all that can be, 8 by each of LOADERS 0..3 and 12 by LOADER 4 */
+    private static void allClasses() {
+        RemoteDesk d = new RemoteDesk();
+        int classes = 0;
+        for (int name = 0; name < 12; name++) {
+            for (int at = 0; at < 5; at++) {
+                d.prefer(at, 255);
+                d.offer(at, name, name - 1, 0, 1, 0);
+                classes += at == 4 || name < 8 ? 1 : 0;
+                d.make(0, at, name, 0);
+                due.is("22: classes", d.state(0, 1), classes);
+            }
+        }
+        due.is("22: all", classes, 44);
+        for (int loader = 0; loader < 5; loader++) {
+            for (int name = 0; name < 12; name++) {
+                due.is("20: DEFINED by", d.known(0, loader, name, 0), name > 7 ? loader < 4 ? BAD : 4 : loader);
+            }
+        }
     }
 }

@@ -6,6 +6,7 @@ public final class ObjectEdgesTest {
 
     public static void main(String[] args) {
         twelveObjects();
+        twelveExported();
         stubsAreObjects();
         leastFreeNumber();
         newCellsAreAsAtFirst();
@@ -30,6 +31,7 @@ public final class ObjectEdgesTest {
         renewedNeedsALink();
         renewedNeedsTheTicket();
         multipleOfFour();
+        allStubsOfAllPlaces();
         untilThisVeryTime();
         renewedBeforeItEnds();
         ticksOneByOne();
@@ -101,6 +103,25 @@ public final class ObjectEdgesTest {
             due.is("FULL: GONE comes before", d.make(p, 4, 3, 0), RemoteDesk.GONE);
             due.is("FULL: the class of an object that is not made is READY", d.make(p, 4, 2, 0) * 10 + d.known(p, 4, 2, 1), FULL * 10 + 1);
             due.is("FULL: other places have room", d.make((p + 1) % 3, 4, 1, 0), OK);
+        }
+    }
+
+    /** Promise 22: "how many of its objects are EXPORTED", none to all */
+    private static void twelveExported() {
+        RemoteDesk d = desk();
+        for (int i = 1; i <= 12; i++) {
+            d.make(2, 4, 1, 0);
+            due.is("22: not yet", d.state(2, 3), i - 1);
+            due.is("22: TICKET", d.bind(2, -1, 0), i);
+            due.is("22: EXPORTED", d.state(2, 3), i);
+            due.is("22: TICKETS", d.state(2, 2), i);
+        }
+        due.is("22: retire", d.retire(2, 0), true);
+        due.is("22: EXPORTED", d.state(2, 3), 11);
+        due.is("22: TICKETS", d.state(2, 2), 12);
+        due.is("22: objects", d.state(2, 0), 12);
+        for (int what = 0; what < 4; what++) {
+            due.is("22: none at another place", d.state(1, what), 0);
         }
     }
 
@@ -369,6 +390,11 @@ public final class ObjectEdgesTest {
             due.is("12: a STUB keeps its TICKET", d.look(p, 2, 0, 0, 5), 2);
         }
         due.is("12: not EXPORTED", d.look(0, 0, 0, 0, 5), NONE);
+        due.is("12: EXPORTED again", d.bind(0, -1, 0), 3);
+        for (int p = 0; p < 3; p++) {
+            due.is("12: LEASES on it are gone", d.lease(0, 3, p), BAD);
+        }
+        due.is("12: and not any more", d.retire(0, 0), true);
         due.is("12: one EXPORTED", d.state(0, 3), 1);
         d.let(0, 0, -1);
         due.is("12: the LABEL holds it", d.collect(0), 0);
@@ -574,6 +600,26 @@ public final class ObjectEdgesTest {
             due.is("17: TIME", d.tick(1), time);
             for (int p = 0; p < 3; p++) {
                 due.is("17: LEASE at " + time, d.lease(0, 1, p), time / 4 * 4 + 10);
+            }
+        }
+    }
+
+    /** The same: "all STUBS of all places", each of another TICKET */
+    private static void allStubsOfAllPlaces() {
+        for (int p = 0; p < 3; p++) {
+            for (int q = 0; q < 3; q++) {
+                RemoteDesk d = desk();
+                int stubs = p == q ? 6 : 12;
+                for (int i = 0; i < stubs; i++) {
+                    d.make(q, 4, 1, 0);
+                    d.bind(q, 0, 0);
+                    due.is("17: a STUB", d.lookup(p, q, 0, 1), OK);
+                }
+                due.is("17: TIME", d.tick(4), 4);
+                for (int ticket = 1; ticket <= stubs; ticket++) {
+                    due.is("17: the STUB of TICKET " + ticket, d.lease(q, ticket, p), 14);
+                }
+                due.is("17: all are EXPORTED", d.state(q, 3), stubs);
             }
         }
     }
