@@ -152,44 +152,90 @@ public final class CallEdgesTest {
         due.is("once: it is one object", d.look(1, 0, 2, 2, 0), 44);
     }
 
+    /** All places have names 0..3 with two REFS; place q has an EXPORTED object of name 0 in VARIABLE 0, and p a STUB of it there. */
+    private static RemoteDesk called(int p, int q) {
+        RemoteDesk d = new RemoteDesk();
+        for (int name = 0; name < 12; name++) {
+            d.offer(4 + name / 4, name % 4, -1, 3, 1, 0);
+        }
+        d.make(q, 4, 0, 0);
+        d.bind(q, 0, 0);
+        d.lookup(p, q, 0, 0);
+        return d;
+    }
+
+    /** VARIABLE 2 of p holds the last of eleven more objects, each leading by REF i % 2 to the one before. */
+    private static void chainOfEleven(RemoteDesk d, int p) {
+        for (int i = 0; i < 11; i++) {
+            d.make(p, 4, i % 4, 1);
+            d.put(p, 1, i % 2, 2);
+            d.let(p, 2, 1);
+        }
+        d.let(p, 1, -1);
+    }
+
     /** "READ .. a new object of it. FULL if there are 12 objects": eleven have room beside the one that is called */
     private static void elevenItems() {
-        RemoteDesk d = desk();
-        d.let(1, 1, -1);
-        d.unbind(1, 1);
-        due.is("eleven: one object at 1", d.collect(1), 1);
-        for (int i = 0; i < 11; i++) {
-            d.make(0, 4, i % 4, 1);
-            d.put(0, 1, i % 2, 2);
-            d.let(0, 2, 1);
+        for (int pair = 0; pair < 9; pair++) {
+            int p = pair / 3;
+            int q = pair % 3;
+            int third = 3 - p - q;
+            if (p == q) {
+                continue;
+            }
+            RemoteDesk d = called(p, q);
+            d.make(third, 4, 0, 0);
+            d.put(third, 0, 0, 0);
+            chainOfEleven(d, p);
+            due.is("eleven: 12 objects at " + p, d.state(p, 0), 12);
+            long graph = d.digest(p, 2);
+            due.is("eleven: REF 0 gets them, nothing comes back", d.call(p, 0, 0, 2, 3), OK);
+            due.is("eleven: 12 objects at " + q, d.state(q, 0), 12);
+            d.let(q, 2, 0);
+            d.walk(q, 2, 0);
+            due.is("eleven: the same graph", d.digest(q, 2), graph);
+            due.is("eleven: no room to send them again", d.call(p, 0, 0, 2, 3), FULL);
+            ends("eleven", d, 4, 2);
+            due.is("eleven: nor for what it held to come back", d.call(p, 0, 0, 3, 3), FULL);
+            ends("eleven: back", d, 7, 2);
+            due.is("eleven: what was there stays", d.digest(p, 2), graph);
+            due.is("eleven: the third place", d.look(third, 0, 0, 3, 3), 0);
         }
-        due.is("eleven: 12 objects at 0", d.state(0, 0), 12);
-        long graph = d.digest(0, 2);
-        due.is("eleven: REF 0 gets them, nothing comes back", d.call(0, 0, 0, 2, 3), OK);
-        due.is("eleven: 12 objects at 1", d.state(1, 0), 12);
-        d.let(1, 2, 0);
-        d.walk(1, 2, 0);
-        due.is("eleven: the same graph", d.digest(1, 2), graph);
-        due.is("eleven: no room to send them again", d.call(0, 0, 0, 2, 3), FULL);
-        ends("eleven", d, 4, 2);
     }
 
     /** The same: for twelve there is never room */
     private static void twelveItems() {
-        RemoteDesk d = desk();
-        d.let(1, 1, -1);
-        d.unbind(1, 1);
-        d.collect(1);
-        d.let(0, 2, 0);
-        for (int i = 0; i < 11; i++) {
-            d.make(0, 4, i % 4, 1);
-            d.put(0, 1, i % 2, 2);
-            d.let(0, 2, 1);
+        for (int pair = 0; pair < 9; pair++) {
+            int p = pair / 3;
+            int q = pair % 3;
+            if (p == q) {
+                continue;
+            }
+            RemoteDesk d = called(p, q);
+            d.let(p, 2, 0);
+            chainOfEleven(d, p);
+            due.is("twelve: eleven are READ, then FULL at the STUB", d.call(p, 0, 3, 2, 3), FULL);
+            ends("twelve", d, 4, -1);
+            due.is("twelve: 12 objects", d.state(q, 0), 12);
+            due.is("twelve: they go", d.collect(q), 11);
+            d = called(p, q);
+            chainOfEleven(d, p);
+            d.put(p, 2, 1, 0);
+            due.is("twelve: the STUB comes last by REF 1", d.call(p, 0, 3, 2, 3), FULL);
+            ends("twelve: by REF 1", d, 4, -1);
+            d = called(p, q);
+            d.make(p, 4, 0, 1);
+            d.make(p, 4, 3, 2);
+            d.put(p, 1, 0, 0);
+            d.put(p, 1, 1, 2);
+            for (int i = 0; i < 9; i++) {
+                d.make(p, 4, i % 3, 3);
+                d.put(p, 3, 1, 1);
+                d.let(p, 1, 3);
+            }
+            due.is("twelve: the STUB comes before", d.call(p, 0, 3, 1, 2), FULL);
+            ends("twelve: so it is FULL at name 3", d, 4, 3);
         }
-        due.is("twelve: eleven are READ, then FULL at the STUB", d.call(0, 0, 3, 2, 3), FULL);
-        ends("twelve", d, 4, -1);
-        due.is("twelve: 12 objects", d.state(1, 0), 12);
-        due.is("twelve: they go", d.collect(1), 11);
     }
 
     /** "An object that is EXPORTED is written as a STUB of its place and TICKET; from that .. nothing leads on." */

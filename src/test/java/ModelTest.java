@@ -3,6 +3,7 @@ import java.util.Random;
 /** Long runs of mixed calls on RemoteDesk and on Model: every answer is compared, and all that can be seen after each run. */
 public final class ModelTest {
     private static final int RUNS = 6000;
+    // With what is seen between and after them a desk gets more than the 512 calls it is promised for: this program does not count them.
     private static final int CALLS = 512;
 
     private final Random random;
